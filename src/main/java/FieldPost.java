@@ -97,16 +97,8 @@ public final class FieldPost {
     }
 
     public int staff(int office, int hands, boolean wired) {
-        if (!net.hasOffice(office)) {
-            return refuse(NOBODY);
-        }
-        if (hands < 0) {
-            return refuse(BELOW);
-        }
-        if (hands > MOST_HANDS) {
-            return refuse(ROOM);
-        }
-        return net.setOffice(office, hands, wired);
+        int refusal = net.hasOffice(office) ? outside(hands, 0, MOST_HANDS) : NOBODY;
+        return refusal < 0 ? refuse(refusal) : net.setOffice(office, hands, wired);
     }
 
     public int way(int a, int b, int length, int first, int every) {
@@ -177,29 +169,14 @@ public final class FieldPost {
     }
 
     public int is(int unit, int hour) {
-        if (!isUnit(unit)) {
-            return refuse(NOBODY);
-        }
-        if (hour < 0) {
-            return refuse(BELOW);
-        }
-        if (hour > MOST_HOURS) {
-            return refuse(ROOM);
-        }
-        return roll.unitAt(unit, hour, 0);
+        int refusal = isUnit(unit) ? outside(hour, 0, MOST_HOURS) : NOBODY;
+        return refusal < 0 ? refuse(refusal) : roll.unitAt(unit, hour, 0);
     }
 
     public int list(int office, int unit, int hour) {
-        if (!net.hasOffice(office) || !isUnit(unit)) {
-            return refuse(NOBODY);
-        }
-        if (hour < 0) {
-            return refuse(BELOW);
-        }
-        if (hour > MOST_HOURS) {
-            return refuse(ROOM);
-        }
-        return roll.unitAt(unit, hour, net.lateAt(office));
+        boolean known = net.hasOffice(office) && isUnit(unit);
+        int refusal = known ? outside(hour, 0, MOST_HOURS) : NOBODY;
+        return refusal < 0 ? refuse(refusal) : roll.unitAt(unit, hour, net.lateAt(office));
     }
 
     public int man(int unit, int name) {
@@ -230,14 +207,10 @@ public final class FieldPost {
 
     public int stateOf(int man, int hour, int office) {
         boolean asItIs = office == -1;
-        if (!roll.hasMan(man) || (!asItIs && !net.hasOffice(office))) {
-            return refuse(NOBODY);
-        }
-        if (hour < 0) {
-            return refuse(BELOW);
-        }
-        if (hour > MOST_HOURS) {
-            return refuse(ROOM);
+        boolean known = roll.hasMan(man) && (asItIs || net.hasOffice(office));
+        int refusal = known ? outside(hour, 0, MOST_HOURS) : NOBODY;
+        if (refusal < 0) {
+            return refuse(refusal);
         }
         return roll.stateBy(man, hour, asItIs ? 0 : net.lateAt(office));
     }
@@ -292,22 +265,18 @@ public final class FieldPost {
         if (!isPurpose(purpose)) {
             return refuse(OTHER);
         }
-        if (!mails.has(mail)) {
-            return refuse(NOBODY);
-        }
-        if (course.where[mail] != AT) {
-            return refuse(STATE);
+        int refusal = notAtOffice(mail);
+        if (refusal < 0) {
+            return refuse(refusal);
         }
         post.takeFacts(course, mail, now);
         return post.purposeHolds(purpose, course.office[mail], now) ? 1 : 0;
     }
 
     public int keep(int n) {
-        if (n < 1) {
-            return refuse(BELOW);
-        }
-        if (n > MOST_KEEP) {
-            return refuse(ROOM);
+        int refusal = outside(n, 1, MOST_KEEP);
+        if (refusal < 0) {
+            return refuse(refusal);
         }
         int was = post.keepHours;
         post.keepHours = n;
@@ -332,21 +301,14 @@ public final class FieldPost {
     }
 
     public int goal(int mail) {
-        if (!mails.has(mail)) {
-            return refuse(NOBODY);
-        }
-        if (course.where[mail] != AT) {
-            return refuse(STATE);
-        }
-        return post.goalOf(course, mail, now);
+        int refusal = notAtOffice(mail);
+        return refusal < 0 ? refuse(refusal) : post.goalOf(course, mail, now);
     }
 
     public int next(int mail) {
-        if (!mails.has(mail)) {
-            return refuse(NOBODY);
-        }
-        if (course.where[mail] != AT) {
-            return refuse(STATE);
+        int refusal = notAtOffice(mail);
+        if (refusal < 0) {
+            return refuse(refusal);
         }
         return net.wayTo(course.office[mail], post.goalOf(course, mail, now));
     }
@@ -399,12 +361,12 @@ public final class FieldPost {
     }
 
     public int cover(int unit, int digits) {
-        int refusal = coverRefusal(unit, digits);
+        int refusal = notACover(unit, digits);
         return refusal < 0 ? refuse(refusal) : roll.fitting(unit, digits);
     }
 
     public int sure(int unit, int digits) {
-        int refusal = coverRefusal(unit, digits);
+        int refusal = notACover(unit, digits);
         if (refusal < 0) {
             return refuse(refusal);
         }
@@ -519,15 +481,23 @@ public final class FieldPost {
         return what == 0 ? c.hour[mail] : c.where[mail];
     }
 
-    /** The refusal of a COVER, 0 if there is none. */
-    private static int coverRefusal(int unit, int digits) {
-        if (unit != -1 && !isUnit(unit)) {
-            return NOBODY;
-        }
-        if (digits < 0) {
+    /** The refusal of a number, 0 if there is none; those below answer in the same way. */
+    private static int outside(int number, int least, int greatest) {
+        if (number < least) {
             return BELOW;
         }
-        return digits > MOST_DIGITS ? ROOM : 0;
+        return number > greatest ? ROOM : 0;
+    }
+
+    private static int notACover(int unit, int digits) {
+        return unit == -1 || isUnit(unit) ? outside(digits, 0, MOST_DIGITS) : NOBODY;
+    }
+
+    private int notAtOffice(int mail) {
+        if (!mails.has(mail)) {
+            return NOBODY;
+        }
+        return course.where[mail] == AT ? 0 : STATE;
     }
 
     /** OFFICES and the WAYS between them. */

@@ -210,8 +210,21 @@ public final class PromiseTests {
         refused(5, x, "a shut more than 40", () -> x.shut(0, 2000, 2000), -6);
         refused(5, x, "a shut more than 40, ahead of now", () -> x.shut(0, 2, 2000), -4);
         FieldPost y = line(3, true);
-        due(5, "shut(0, 0, 1)", y.shut(0, 0, 1), 1);
-        due(5, "shut(1, 0, 1), all are counted", y.shut(1, 0, 1), 2);
+        due(5, "shut(0, 5, 9)", y.shut(0, 5, 9), 1);
+        due(5, "shut(1, 2, 3), all are counted", y.shut(1, 2, 3), 2);
+        y.man(0, 0);
+        y.move(0, 2, 0);
+        y.mail(0, 0, 0, 0);
+        y.mail(0, 1, 0, 0);
+        due(5, "after(0, 0), not shut yet", y.after(0, 0), 2);
+        due(5, "after(1, 0), not shut yet", y.after(1, 0), 1);
+        y.staff(0, 0, true);
+        y.staff(1, 0, true);
+        y.hours(2);
+        y.staff(0, 9, true);
+        y.staff(1, 9, true);
+        due(5, "after(0, 0), another way is shut", y.after(0, 0), 5);
+        due(5, "after(1, 0), its way is shut", y.after(1, 0), 5);
     }
 
     private static void far() {
@@ -331,6 +344,9 @@ public final class PromiseTests {
         refused(11, x, "list(0, 16, 0)", () -> x.list(0, 16, 0), -1);
         refused(11, x, "list(0, 0, -1)", () -> x.list(0, 0, -1), -4);
         refused(11, x, "list(0, 0, 2001)", () -> x.list(0, 0, 2001), -6);
+        x.move(5, 2, 0);
+        due(11, "list(0, 5, 0)", x.list(0, 5, 0), 2);
+        due(11, "list(1, 5, 0)", x.list(1, 5, 0), NONE);
         x.hours(2);
         x.move(0, 1, 2);
         x.hours(1);
@@ -614,6 +630,16 @@ public final class PromiseTests {
         x.hours(1);
         refused(19, x, "holds(0, 0) of one that was given", () -> x.holds(0, 0), -3);
         refused(19, x, "holds(3, 0) of one that was given", () -> x.holds(3, 0), -2);
+        FieldPost y = new FieldPost();
+        y.office(1, true);
+        y.man(0, 0);
+        y.mail(0, 0, 0, 0);
+        for (int i = 0; i < 14; i++) {
+            text(y, 1, "1=1&1=1&1=1&1=1&1=1&1=1&1=1&1=1&1=1&1=1&1=1&1=1&1=1&1=1");
+            due(19, "holds(1, 0) of a long text", y.holds(1, 0), 1);
+            text(y, 1, "1=2");
+            due(19, "holds(1, 0) of a short text behind it", y.holds(1, 0), 0);
+        }
         String[] trueOnes = {"1=1", "1<2", "2>1", "0010=10", "!1=2", "!!1=1", "(1=1)", "1=1&2=2", "1=1|1=2", "1=2|1=1", "1=1|1=2&1=2",
             "1=2&1=1|1=1", "!(1=1&1=2)", "!1=2&1=1", "!1=1|1=1", "(1=2|1=1)&1=1", "!!!!!1=2", "1=2|1=2|1=1", "1=1&1=1&1=1",
             "(1=1|1=2)&!(1=2|(1=1&1=2))"};
@@ -724,14 +750,16 @@ public final class PromiseTests {
         mailIs(x, 0, 1, 2, 1, 6, 0, 0, 2, 1);
         mailIs(x, 1, 1, 2, 1, 6, 0, 0, 2, 0);
         due(21, "count(9)", x.count(9), 1);
+        x.mail(1, 1, 0, 1);
         text(x, 0, "k=2");
         x.mail(2, 1, 0, 9);
         x.hours(1);
-        mailIs(x, 2, 2, 4, 1, 7, 0, 0, 1, 0);
+        mailIs(x, 2, 1, 2, 1, 7, 0, 0, 1, 0);
+        mailIs(x, 3, 2, 4, 1, 7, 0, 0, 1, 0);
         x.state(0, 3, 0);
         x.mail(0, 1, 0, 1);
         x.hours(1);
-        mailIs(x, 3, 0, 3, 1, 8, 1, 3, 1, 0);
+        mailIs(x, 4, 0, 3, 1, 8, 1, 3, 1, 0);
     }
 
     private static void mailIs(FieldPost x, int mail, int... want) {
@@ -915,6 +943,49 @@ public final class PromiseTests {
         due(26, "after(1, 0) on hour 2000", x.after(1, 0), 2049);
         refused(26, x, "after(1, 3) on hour 2000", () -> x.after(1, 3), -2);
         spoiltInAfter();
+        underway();
+    }
+
+    /** What the MAILS are by now counts in AFTER, too: TURNED or not, and how many OFFICES they came to. */
+    private static void underway() {
+        FieldPost x = line(3, true);
+        x.staff(1, 0, true);
+        x.man(0, 0);
+        x.move(0, 2, 0);
+        x.mail(0, 0, 0, 0);
+        x.mail(0, 1, 0, 0);
+        text(x, 0, "c=2");
+        x.hours(2);
+        x.staff(1, 9, true);
+        due(26, "after(0, 0)", x.after(0, 0), 2);
+        due(26, "after(0, 1), the second office", x.after(0, 1), 4);
+        due(26, "after(1, 0)", x.after(1, 0), 3);
+        due(26, "after(1, 1), the second office", x.after(1, 1), 4);
+        FieldPost y = line(2, true);
+        y.man(0, 0);
+        y.man(1, 0);
+        y.state(1, 3, 0);
+        y.move(0, 1, 0);
+        y.mail(0, 0, 0, 0);
+        y.mail(0, 0, 1, 0);
+        text(y, 1, "h<3");
+        y.hours(4);
+        due(26, "after(0, 0)", y.after(0, 0), 7);
+        due(26, "after(0, 1)", y.after(0, 1), 2);
+        due(26, "after(1, 0), it ended", y.after(1, 0), 3);
+        due(26, "after(1, 1)", y.after(1, 1), 3);
+        FieldPost z = line(2, true);
+        z.man(0, 0);
+        z.keep(2);
+        z.mail(0, 0, 0, 0);
+        z.hours(1);
+        z.mail(0, 0, 0, 0);
+        z.hours(2);
+        z.move(0, 1, 3);
+        due(26, "after(0, 1), turned", z.after(0, 1), 3);
+        due(26, "after(0, 0), turned", z.after(0, 0), 3);
+        due(26, "after(1, 1), not turned", z.after(1, 1), 2);
+        due(26, "after(1, 0), not turned", z.after(1, 0), 4);
     }
 
     private static void spoiltInAfter() {
@@ -1044,6 +1115,13 @@ public final class PromiseTests {
         bestIs(x, 20, 14, 4);
         x.sack(1, 5, 1);
         bestIs(x, 84, 15, 5);
+        FieldPost z = new FieldPost();
+        z.sack(1, 1, 1);
+        bestIs(z, 1, 1, 1);
+        z.sack(5, 9, 6);
+        z.sack(4, 8, 3);
+        z.sack(3, 7, 3);
+        bestIs(z, 11, 10, 9);
         FieldPost y = new FieldPost();
         y.sack(3, 10, 5);
         y.sack(3, 10, 5);
@@ -1100,6 +1178,14 @@ public final class PromiseTests {
         row(x, 0, 60, -1);
         row(x, 0, 60, 3, 0);
         row(x, 1, 30, 2, -128);
+        FieldPost y = new FieldPost();
+        y.sack(1, 999, 1);
+        y.sack(1, 999, 2);
+        y.sack(1, 999, 4);
+        row(y, 2, 4, 0, 1, 0, 2);
+        row(y, 2, 1, 2, 1, 2);
+        row(y, 1, 5, 1, 1);
+        row(y, NONE, 0, 2, 0, 1);
         row(x, 3, 0, 0, 1, 2, 127);
         row(x, 3, 0, 0, 1, 2, 2, 2, 2, 2, 2, 2, 2, 2, 2);
     }
