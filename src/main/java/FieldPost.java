@@ -1083,13 +1083,15 @@ public final class FieldPost {
 
     /** How an HOUR passes, on the true course or on the glass. */
     private static final class Post {
+        /** Where facts has the letter s. */
+        static final int STATE_HEARD = 4;
+
         final Net net = new Net();
         final Roll roll = new Roll();
         final Orders orders = new Orders();
         final Mails mails = new Mails();
         private final int[] queue = new int[MOST_MAILS];
         private final int[] seen = new int[MOST_OFFICES];
-        static final int STATE_HEARD = 4;
         /** What the letters of a TEXT mean for one MAIL, in the order of Reader.LETTERS. */
         private final int[] facts = new int[Reader.LETTERS.length()];
         int keepHours = FIRST_KEEP;
