@@ -117,8 +117,10 @@ public final class SentenceRuns {
                 any = true;
             }
         }
-        if (any && test.rows().size() + 6 <= MOST_CALLS) {
+        if (test.rows().size() + 6 <= MOST_CALLS) {
             refusalsAreCounted(test, x, refused);
+        }
+        if (any && test.rows().size() < MOST_CALLS) {
             nothingElseChanges(test);
         }
     }
